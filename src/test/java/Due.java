@@ -13,11 +13,22 @@ final class Due {
     static final String NOTHING = "nothing";
 
     private int wrong;
+    private String sentence = "";
+
+    /** The document's sentence that the next calls are tested by; told with each wrong answer. */
+    void of(String words) {
+        sentence = words + " | ";
+    }
 
     void is(String call, long due, long got) {
-        if (got != due) {
+        same(call, Long.toString(due), Long.toString(got));
+    }
+
+    /** Two answers as texts. */
+    void same(String call, String due, String got) {
+        if (!got.equals(due)) {
             wrong++;
-            System.out.println(call + " answered " + got + ", due is " + due);
+            System.out.println(sentence + call + " answered " + got + ", due is " + due);
         }
     }
 
@@ -55,7 +66,7 @@ final class Due {
         }
         if (!got.equals(due)) {
             wrong++;
-            System.out.println(call + " threw " + got + ", due is " + due);
+            System.out.println(sentence + call + " threw " + got + ", due is " + due);
         }
     }
 

@@ -43,7 +43,7 @@ public final class RoomTest {
     }
 
     private static void calls(FestivalFields x, int turn) {
-        for (int i = 0; i < 20; i++) {
+        for (int i = 0; i < 12; i++) {
             x.crowd(i % 8, 500 * i + turn);
             x.empty();
             x.worst();
