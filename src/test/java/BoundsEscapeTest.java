@@ -11,7 +11,7 @@ public final class BoundsEscapeTest {
         fortyByWide(due);
         noneWithoutGate(due);
         outInThatMinute(due);
-        bothDirectionsAtOnce(due);
+        inEachDirection(due);
         waitAnywhere(due);
         shutIsNoGate(due);
         allThereMayBe(due);
@@ -133,42 +133,24 @@ public final class BoundsEscapeTest {
         due.is("one and eight", 10, line(1, 8).empty());
     }
 
-    private static void bothDirectionsAtOnce(Due due) {
-        due.of("WAYS: WIDE each minute, in each direction");
-        FestivalFields x = new FestivalFields();
-        x.place(20, 0);
-        x.place(0, 10);
-        x.place(20, 0);
-        x.place(0, 10);
-        // The only WAYS out lead across the one between 1 and 3, in both directions in the same minutes.
-        x.way(0, 3, 1, 10);
-        x.way(2, 1, 1, 10);
-        x.way(1, 3, 1, 10);
-        due.is("each by the nearer gate", 3, x.empty());
-        FestivalFields y = new FestivalFields();
-        y.place(0, 0);
-        y.place(0, 0);
-        y.place(20, 0);
-        y.place(20, 0);
-        y.place(0, 10);
-        y.place(0, 10);
-        y.way(2, 0, 1, 10);
-        y.way(3, 1, 1, 10);
-        y.way(0, 1, 1, 10);
-        y.way(0, 4, 1, 10);
-        y.way(1, 5, 1, 10);
-        due.is("nobody has to cross", 4, y.empty());
-        y.shut(4, true);
-        due.is("half of them cross", 6, y.empty());
-        FestivalFields z = new FestivalFields();
-        z.place(30, 0);
-        z.place(30, 0);
-        z.place(0, 10);
-        z.place(0, 10);
-        z.way(0, 1, 1, 10);
-        z.way(1, 2, 1, 10);
-        z.way(0, 3, 1, 10);
-        due.is("ten each minute at each gate", 4, z.empty());
+    private static void inEachDirection(Due due) {
+        due.of("WAYS: between two PLACES, both ways: WIDE each minute, in each direction");
+        for (int from = 0; from < 2; from++) {
+            FestivalFields x = new FestivalFields();
+            x.place(from == 0 ? 40 : 0, 0);
+            x.place(from == 1 ? 40 : 0, 0);
+            x.place(0, 10);
+            x.place(0, 10);
+            x.way(0, 2, 1, 10);
+            x.way(1, 3, 1, 10);
+            due.is("ten each minute at the nearer gate", 5, x.empty());
+            x.way(0, 1, 1, 10);
+            due.is("ten each minute at both, one minute later there", 4, x.empty());
+            x.crowd(1 - from, 20);
+            due.is("twenty from the other PLACE too", 4, x.empty());
+            x.crowd(1 - from, 21);
+            due.is("one more", 5, x.empty());
+        }
     }
 
     private static void waitAnywhere(Due due) {

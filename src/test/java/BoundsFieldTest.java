@@ -349,6 +349,7 @@ public final class BoundsFieldTest {
         }
         due.unsupported("there were 60, none stands", () -> x.tent(1, 1));
         due.is("none stands", 0, x.count(1));
+        due.is("the LANES stay", 6, x.count(9));
         due.no("strike(59) again", x.strike(59));
     }
 

@@ -18,6 +18,7 @@ public final class BoundsGateBookTest {
         twoHundred(due);
         nothingThere(due);
         upToAMinute(due);
+        eachBandByItself(due);
         toldUpTo(due);
         byMinutesThenNumbers(due);
         lastMinuteOfAll(due);
@@ -221,6 +222,29 @@ public final class BoundsGateBookTest {
         for (int i = 0; i < minutes.length; i++) {
             due.is("at " + minutes[i], inside[i], x.inside(8, minutes[i], 100) ? 1 : 0);
             due.is("within at " + minutes[i], inside[i], x.within(false, minutes[i], 100));
+        }
+    }
+
+    private static void eachBandByItself(Due due) {
+        due.of("as known: of a BAND by all PASSES (those of other BANDS count for nothing)");
+        for (int other = 6; other <= 8; other += 2) {
+            FestivalFields x = new FestivalFields();
+            x.minutes(50);
+            x.pass(7, true, 10);
+            x.pass(other, true, 30);
+            x.minutes(50);
+            x.pass(7, false, 70);
+            x.pass(other, false, 60);
+            due.is("at 20: one", 1, x.within(false, 20, 100));
+            due.no("the other at 20", x.inside(other, 20, 100));
+            due.is("at 40: both", 2, x.within(false, 40, 100));
+            due.is("at 65: one", 1, x.within(false, 65, 100));
+            due.yes("it at 65", x.inside(7, 65, 100));
+            due.is("at 80: none", 0, x.within(false, 80, 100));
+            due.is("at 80, as known at 99: both", 2, x.within(false, 80, 99));
+            due.is("ODD", 0, x.within(true, 80, 100));
+            x.pass(other, true, 5);
+            due.is("ODD: the one of 30", 1, x.within(true, 80, 100));
         }
     }
 

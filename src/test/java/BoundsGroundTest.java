@@ -304,6 +304,20 @@ public final class BoundsGroundTest {
         due.unsupported("the 15th", () -> x.way(2, 0, 1, 2000));
         due.is("WAYS", 14, x.count(5));
         due.is("as before", 4, x.empty());
+        FestivalFields y = new FestivalFields();
+        y.place(3, 0);
+        y.place(0, 0);
+        y.place(0, 5);
+        for (int i = 0; i < 13; i++) {
+            y.way(0, 1, 1, 1);
+        }
+        due.is("the 14th", 13, y.way(0, 2, 5, 1));
+        due.is("the only one to a gate", 8, y.empty());
+        for (int length : new int[] {1, 8}) {
+            due.unsupported("the 15th", () -> y.way(0, 2, length, 3));
+            due.unsupported("the 15th", () -> y.way(2, 1, length, 3));
+            due.is("as before", 8, y.empty());
+        }
         due.outOfBounds("no act over a 15th", () -> x.act(14, false, 0, 0));
         due.is("an act over the 14th", 0, x.act(13, false, 0, 11));
         due.is("its WIDE", 10, x.tooMany());

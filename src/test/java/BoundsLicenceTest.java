@@ -19,6 +19,7 @@ public final class BoundsLicenceTest {
         oneToSixDigits(due);
         noNumber(due);
         wordsThatAreNone(due);
+        everyLetter(due);
         wordsAreAsLongAsLettersGoOn(due);
         blanks(due);
         everyByteWhereATermBegins(due);
@@ -252,6 +253,29 @@ public final class BoundsLicenceTest {
         wrong(due, "noise 5 from 7 to 8 from 9", 20);
         wrong(due, "noise 5 6 from 7 to 8", 8);
         wrong(due, "noise 5 from 7 8", 15);
+    }
+
+    /** Each letter of each word counts: with another one in its place, without it, and twice. */
+    private static void everyLetter(Due due) {
+        due.of("the first wrong byte: the begin of a word that is none (one letter is wrong)");
+        String[] heads = {"", "", "", "", "", "noise 5 ", "noise 5 from 7 "};
+        String[] words = {"people", "minutes", "worst", "tents", "noise", "from", "to"};
+        String[] tails = {" 5", " 5", " 5", " 5", " 5 from 7 to 8", " 7 to 8", " 8"};
+        for (int i = 0; i < words.length; i++) {
+            String word = words[i];
+            right(due, heads[i] + word + tails[i], 1);
+            for (int k = 0; k < word.length(); k++) {
+                String before = heads[i] + word.substring(0, k);
+                String behind = word.substring(k + 1) + tails[i];
+                for (char other = 'a'; other <= 'z'; other++) {
+                    if (other != word.charAt(k)) {
+                        wrong(due, before + other + behind, heads[i].length());
+                    }
+                }
+                wrong(due, before + behind, heads[i].length());
+                wrong(due, before + word.charAt(k) + word.charAt(k) + behind, heads[i].length());
+            }
+        }
     }
 
     private static void wordsAreAsLongAsLettersGoOn(Due due) {

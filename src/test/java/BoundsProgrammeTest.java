@@ -21,6 +21,7 @@ public final class BoundsProgrammeTest {
         leastSumOfShifts(due);
         firstActsLeast(due);
         noSuchAct(due);
+        shiftsAskedFirst(due);
         forgets(due);
         due.end();
     }
@@ -307,6 +308,24 @@ public final class BoundsProgrammeTest {
         due.is("as many as before", 6, x.count(6));
     }
 
+    private static void shiftsAskedFirst(Due due) {
+        due.of("17: the BEST shift of an ACT (nothing else was asked before)");
+        FestivalFields x = withWays(10);
+        x.act(0, false, 0, 10);
+        x.act(0, false, 0, 10);
+        x.act(0, false, 0, 10);
+        due.is("shift(2)", 20, x.shift(2));
+        due.is("shift(1)", 10, x.shift(1));
+        due.is("shift(0)", 0, x.shift(0));
+        x.act(0, false, 10, 10);
+        due.is("shift(3) of four", 20, x.shift(3));
+        due.is("shift(2) of four", 20, x.shift(2));
+        due.is("shift(1) of four", 10, x.shift(1));
+        x.forget();
+        x.act(0, false, 0, 10);
+        due.is("shift(0) behind forget()", 0, x.shift(0));
+    }
+
     private static void forgets(Due due) {
         due.of("18: no ACTS any more: how many there were");
         FestivalFields x = withWays(10);
@@ -326,7 +345,8 @@ public final class BoundsProgrammeTest {
         x.act(0, false, 0, 20);
         x.act(0, false, 0, 20);
         shifts(due, x, 200, 0, 10);
-        x.forget();
+        due.is("forget()", 2, x.forget());
+        due.is("tooMany() of none", 0, x.tooMany());
         x.act(0, false, 0, 10);
         x.act(0, false, 5, 10);
         shifts(due, x, 0, 0, 10);

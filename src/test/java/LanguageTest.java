@@ -8,11 +8,14 @@ import java.util.regex.Pattern;
 public final class LanguageTest {
     private static final Path FILE = Path.of("src/main/java/FestivalFields.java");
     private static final int LINES_MOST = 60;
-    private static final List<String> REFUSED = List.of("\\bpackage\\b", "->", "::", "\\btry\\b", "\\bcatch\\b",
-        "\\bfinally\\b", "\\bsynchronized\\b", "\\bassert\\b", "\\bthrow (?!new (IllegalArgumentException"
-        + "|IndexOutOfBoundsException|UnsupportedOperationException)\\(\\);)", "\\bstatic (?!final\\b)\\w+(\\[\\])* \\w+( =|;)",
-        "\\bstatic \\{", "Exact\\(", "\\bSystem\\.(?!arraycopy)", "\\bObject\\b", "\\bprotected\\b", "\\.\\.\\.",
+    private static final String EXCEPTIONS = "(IllegalStateException|IllegalArgumentException|IndexOutOfBoundsException"
+        + "|ArithmeticException|UnsupportedOperationException|NoSuchElementException|RuntimeException)";
+    private static final List<String> REFUSED = List.of("\\bpackage\\b", "^(?!\\s*(case|default)\\b).*->", "::",
+        "\\bfinally\\b", "\\bsynchronized\\b", "\\bassert\\b", "\\bcatch \\((?!" + EXCEPTIONS + "\\b)",
+        "\\bthrow (?!new " + EXCEPTIONS + "\\((\"[^\"]*\")?\\);)", "\\bstatic (?!final\\b)\\w+(\\[\\])* \\w+( =|;)",
+        "\\bstatic \\{", "Exact\\(", "\\bSystem\\.(?!arraycopy)", "\\bObject\\b", "\\bprotected\\b",
         "\\bwhile \\(true\\)", "\\bfor \\(;;");
+    private static final List<String> IMPORTS = List.of("ArrayList", "Arrays", "Iterator", "List", "NoSuchElementException");
 
     public static void main(String[] args) throws IOException {
         Due due = new Due();
@@ -24,9 +27,10 @@ public final class LanguageTest {
                 due.no("line " + (i + 1) + " has " + pattern, Pattern.compile(pattern).matcher(code).find());
             }
             if (code.startsWith("import")) {
-                due.yes("line " + (i + 1) + ": " + code, code.equals("import java.util.Arrays;"));
+                String name = code.replaceAll("import java\\.util\\.(\\w+);", "$1");
+                due.yes("line " + (i + 1) + ": " + code, IMPORTS.contains(name));
             }
-            due.no("line " + (i + 1) + " has a sign above 126", line.chars().anyMatch(c -> c > 126));
+            due.no("line " + (i + 1) + " has a sign above 127", code.chars().anyMatch(c -> c > 127));
         }
         lengths(due, lines);
         due.end();

@@ -53,7 +53,9 @@ public final class RefusalsTest {
         fullBook(new RefusalsTest(due, false, RefusalsTest::fullBook));
         lastMinute(new RefusalsTest(due, true, RefusalsTest::lastMinute));
         wrongLicences(new RefusalsTest(due, true, RefusalsTest::busyWithoutTape));
-        nothingThere(new RefusalsTest(due, true, x -> { }));
+        RefusalsTest fresh = new RefusalsTest(due, true, x -> { });
+        nothingThere(fresh);
+        anotherObject(fresh);
         due.end();
     }
 
@@ -430,5 +432,14 @@ public final class RefusalsTest {
         t.refused("within(true, 0, 0)", "0", x -> x.within(true, 0, 0));
         t.refused("fault()", NONE, FestivalFields::fault);
         t.refused("broken()", NONE, FestivalFields::broken);
+    }
+
+    /** The calls of one object change nothing of another one, whether that was made before or is made behind them. */
+    private static void anotherObject(RefusalsTest t) {
+        t.due.of("1: a new object");
+        t.refused("calls of another object", "0", x -> {
+            busy(new FestivalFields());
+            return 0;
+        });
     }
 }
